@@ -1,3 +1,6 @@
+import java.util.ArrayList;
+import java.util.List;
+
 /** A test for each promise: ordinary calls, the edges that the document names, and wrong ones. */
 public final class PromisesTest {
     private static final int[] FAR = {Integer.MIN_VALUE, Integer.MAX_VALUE};
@@ -195,6 +198,13 @@ public final class PromisesTest {
         due("read()", rusty.x.read(), 6);
         due("rust at most", rusty.x.of(0, 3), 99);
         due("rust", rusty.x.of(1, 3), 7);
+        due("read() again", rusty.x.read(), 6);
+        due("the same", rusty.x.count(0), 2);
+        rusty.text("office;clerk 5 11 9;magnet 5 11 9;");
+        due("read() of another", rusty.x.read(), 3);
+        due("of(0, 0)", rusty.x.of(0, 0), 5);
+        due("count(0)", rusty.x.count(0), 1);
+        due("count(2)", rusty.x.count(2), 0);
         reads("office;", 1);
         reads("office;days99;days 1;", 3);
         reads("office;clerk 0 0 1;clerk 0 0 1;hook 0 1;", 4);
@@ -219,6 +229,8 @@ public final class PromisesTest {
         fault("office  ", 8);
         fault("offic", 0);
         fault(" offices;", 1);
+        fault("xffice;", 0);
+        fault("officx;", 0);
         fault("Office;", 0);
         fault("offIce;", 0);
         fault("clerk 0 0 1;", 0);
@@ -370,6 +382,10 @@ public final class PromisesTest {
         due("one would leave", wall.x.day(1), 0);
         due("desk", wall.x.of(0, 1), 5);
         due("rust", wall.x.of(0, 3), 1);
+        Office first = Office.with(0, 0, 1, 0, 5, 1).hooked(0, 1);
+        first.x.magnet(4, 11, 9);
+        due("the first would leave", first.x.day(1), 0);
+        due("desk", first.x.of(1, 1), 5);
         Office cold = Office.with(0, 0, 1);
         cold.x.magnet(3, 11, 9);
         due("cold, even", cold.x.day(1), 1);
@@ -414,6 +430,7 @@ public final class PromisesTest {
         }
         o.no("undo()", () -> o.x.undo());
         due("told stay", o.x.count(5), 1);
+        undoSeven();
         Office late = Office.ofKinds(0);
         for (int k = 0; k < 17; k++) {
             late.x.day(60);
@@ -421,6 +438,34 @@ public final class PromisesTest {
         due("none goes by", late.x.day(60), 0);
         due("undo()", late.x.undo(), 999);
         due("undo()", late.x.undo(), 960);
+    }
+
+    /** Each of seven has a desk, a rust and one it is on of its own to go back to. */
+    private static void undoSeven() {
+        Office o = Office.with(0, 0, 1, 0, 1, 9, 0, 2, 1, 0, 3, 9, 0, 4, 1, 0, 5, 9, 0, 6, 1);
+        o.x.magnet(0, 11, 4);
+        List<List<Integer>> before = new ArrayList<>();
+        int[][] hooks = {{6, 5}, {5, 3}, {3, 1}, {4, 2}};
+        for (int[] hook : hooks) {
+            before.add(whatIsUndone(o.x));
+            o.x.day(hook[1]);
+            before.add(whatIsUndone(o.x));
+            o.hooked(hook);
+        }
+        due("count(8)", o.x.count(8), 8);
+        for (int k = 7; k >= 0; k--) {
+            due("undo()", o.x.undo(), before.get(k).get(0));
+            due("all is as ahead of it", whatIsUndone(o.x).equals(before.get(k)) ? 1 : 0, 1);
+        }
+    }
+
+    /** The DAY, then DESK, RUST and ON of each CLERK. */
+    private static List<Integer> whatIsUndone(ClerkChains x) {
+        List<Integer> all = new ArrayList<>(List.of(x.count(2)));
+        for (int c = 0; c < x.count(0); c++) {
+            all.addAll(List.of(x.of(c, 1), x.of(c, 3), x.of(c, 4)));
+        }
+        return all;
     }
 
     private static void of() {
@@ -511,6 +556,11 @@ public final class PromisesTest {
         o.same("plain, copper, bent", () -> o.x.least(0, 3), 6);
         o.same("plain, bent, copper", () -> o.x.least(3, 0), 12);
         o.same("none", () -> o.x.least(0, 4), -1);
+        // With RUST of 4 or more 20 becomes 19, 7, 1; 19 becomes 18, 6, none.
+        Office rusty = Office.ofKinds(0, 3, 3, 0);
+        rusty.x.day(4);
+        rusty.hooked(1, 0, 2, 1, 3, 2);
+        rusty.same("the greatest tug", () -> rusty.x.least(0, 3), 20);
         o.bad("not there", () -> o.x.least(5, 0));
         o.bad("not there", () -> o.x.least(0, 5));
         o.bad("none", () -> o.x.least(-1, 0));
@@ -566,6 +616,8 @@ public final class PromisesTest {
         wide.same("longest over a fork", () -> wide.x.string(2, 2), 4);
         Office twig = Office.ofKinds(0, 0, 0, 0, 0).hooked(1, 0, 2, 1, 3, 1, 4, 0);
         twig.same("longest beside a twig", () -> twig.x.string(2, 2), 4);
+        Office straight = Office.ofKinds(0, 0, 0, 0).hooked(0, 1, 1, 2, 2, 3);
+        straight.same("longest from the first", () -> straight.x.string(1, 2), 4);
         o.refused(Office.BAD, "not there", () -> o.x.string(6, 0), -1000);
         o.refused(Office.BAD, "none", () -> o.x.string(-1, 0), -1000);
         o.refused(Office.BAD, "what", () -> o.x.string(0, 4), -1000);
@@ -608,6 +660,10 @@ public final class PromisesTest {
         Office some = Office.ofKinds(0, 0, 0, 0, 0, 0, 0).hooked(1, 0, 2, 1, 3, 1, 5, 4);
         some.same("strings(0)", () -> some.x.strings(0), 3);
         some.same("strings(1)", () -> some.x.strings(1), 1 + 4 + 8 + 16 + 32 + 64);
+        Office chain = Office.ofKinds(0, 0, 0, 0).hooked(0, 1, 1, 2);
+        chain.same("one with two hooks is no end", () -> chain.x.strings(1), 1 + 4 + 8);
+        Office fork = Office.ofKinds(0, 0, 0).hooked(1, 0, 2, 0);
+        fork.same("two on it, on nobody", () -> fork.x.strings(1), 2 + 4);
         o.bad("what", () -> o.x.strings(2));
         o.bad("what", () -> o.x.strings(-1));
     }
@@ -646,6 +702,17 @@ public final class PromisesTest {
         // Strings of 3, 3 and 1 need two tables for 4.
         Office threes = Office.ofKinds(0, 0, 0, 0, 0, 0, 0).hooked(1, 0, 2, 1, 4, 3, 5, 4);
         threes.same("two and one", () -> threes.x.lunch(4), 2);
+        due("unbend", threes.x.unbend(2), 1);
+        due("hook", threes.x.hook(6, 5), 4);
+        threes.same("four at one", () -> threes.x.lunch(3), -1);
+        due("unbend", threes.x.unbend(6), 5);
+        due("unbend", threes.x.unbend(5), 4);
+        due("hook", threes.x.hook(2, 1), 3);
+        due("hook", threes.x.hook(6, 3), 3);
+        due("hook", threes.x.hook(5, 0), 4);
+        due("office()", threes.x.office(), 7);
+        due("clerk", threes.x.clerk(0, 0, 1), 0);
+        threes.same("one alone", () -> threes.x.lunch(1), 1);
         Office ones = Office.ofKinds(0, 0, 0, 0, 0, 0, 0);
         ones.same("seven tables", () -> ones.x.lunch(1), 7);
         ones.same("four tables", () -> ones.x.lunch(2), 4);
@@ -670,6 +737,8 @@ public final class PromisesTest {
         chain.same("all", () -> chain.x.free(3), 14);
         chain.same("one is too heavy", () -> chain.x.free(2), -1);
         chain.same("free(63)", () -> chain.x.free(63), 0);
+        Office up = Office.with(0, 0, 5, 0, 0, 4).hooked(0, 1);
+        up.same("the first is unbent", () -> up.x.free(8), 1);
         o.bad("free(0)", () -> o.x.free(0));
         o.bad("free(64)", () -> o.x.free(64));
         for (int far : FAR) {
@@ -904,12 +973,33 @@ public final class PromisesTest {
         light.same("not so many", () -> light.x.lifts(0, 1, 3), -5);
         o.x.hook(1, 2);
         o.same("one string", () -> o.x.lifts(1, 2, -1), 0);
+        liftsOfHeavyOnes();
         o.refused(Office.BAD, "alike", () -> o.x.lifts(0, 0, -1), -10);
         o.refused(Office.BAD, "not there", () -> o.x.lifts(3, 0, -1), -10);
         o.refused(Office.BAD, "not there", () -> o.x.lifts(0, 3, -1), -10);
         o.refused(Office.BAD, "none", () -> o.x.lifts(-1, 0, -1), -10);
         o.refused(Office.BAD, "k", () -> o.x.lifts(0, 1, -2), -10);
         o.refused(Office.BAD, "k", () -> o.x.lifts(0, 1, Integer.MIN_VALUE), -10);
+    }
+
+    /** A string of three and one of one: a third of 27 is as many hands as there are, of 28 more. */
+    private static void liftsOfHeavyOnes() {
+        Office most = Office.with(0, 0, 9, 0, 0, 9, 0, 0, 9, 0, 0, 1).hooked(1, 0, 2, 1);
+        most.same("27 and 1", () -> most.x.lifts(2, 3, -1), 1);
+        most.same("27 and 1", () -> most.x.lifts(2, 3, 0), 90);
+        most.same("1 and 27", () -> most.x.lifts(3, 2, -1), 1);
+        most.same("1 and 27", () -> most.x.lifts(3, 2, 0), 9);
+        most.x.clerk(0, 0, 1);
+        most.hooked(4, 2);
+        most.same("28 and 1", () -> most.x.lifts(2, 3, -1), 2);
+        most.same("28 and 1", () -> most.x.lifts(2, 3, 0), 0);
+        most.same("28 and 1", () -> most.x.lifts(2, 3, 1), 1);
+        most.same("1 and 28", () -> most.x.lifts(3, 2, -1), 2);
+        most.same("1 and 28", () -> most.x.lifts(3, 2, 1), 10);
+        // At 0 and 8 the first would get 1 more by as many hands as the second has.
+        Office like = Office.with(0, 0, 9, 0, 0, 9, 0, 0, 9, 0, 0, 6).hooked(2, 1, 3, 2);
+        like.same("9 and 24", () -> like.x.lifts(0, 1, -1), 0);
+        like.same("9 and 24", () -> like.x.lifts(0, 1, 0), -5);
     }
 
     private static void slipsTo(Office o, int[] args, int above, int below) {
@@ -960,7 +1050,8 @@ public final class PromisesTest {
 
     /** RUST grows, and magnets draw, as the DAYS of a DECADE go by. */
     private static void decadesGoBy() {
-        for (int seed : new int[] {0, 7, 4711, 999999}) {
+        for (int k = 0; k < 40; k++) {
+            int seed = 999999 - 25641 * k;
             Office o = Office.ofKinds(1, 3, 1, 0, 4).hooked(1, 0, 2, 1, 3, 2, 4, 3);
             o.x.magnet(3, 11, 9);
             o.x.magnet(0, 0, 5);
