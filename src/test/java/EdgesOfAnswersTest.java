@@ -27,7 +27,9 @@ public final class EdgesOfAnswersTest {
         lifts();
         slips();
         decades();
+        tugsOfDecades();
         undo();
+        undoOfSeven();
         images();
         status();
         fraction();
@@ -175,6 +177,8 @@ public final class EdgesOfAnswersTest {
         seven.same("seven alone", () -> seven.x.strings(1), 127);
         seven.chained(7);
         seven.same("seven in a row", () -> seven.x.strings(1), 1 + 64);
+        Office fork = Office.ofPlain(3).hooked(1, 0, 2, 0);
+        fork.same("two hooks, ON nobody", () -> fork.x.strings(1), 2 + 4);
         Office none = new Office();
         none.same("nobody", () -> none.x.strings(1), 0);
 
@@ -495,6 +499,16 @@ public final class EdgesOfAnswersTest {
         o.x.note(0, 9, 4, 4);
         // RUSTY alone: PLAIN would be 8, BENT 2, COPPER 8.
         o.same("one KIND", () -> o.x.look(0), 10);
+
+        Office.sentence("LOOK: 10 t and u (t 1 .. 20, u 0 .. 9)");
+        int[][] rows = {{0, 0, 0, 41}, {20, 0, 20, 10}, {9, 0, 8, 31}, {9, 4, 8, 20}, {1, 0, 0, 41}, {2, 0, 1, 21}};
+        for (int[] row : rows) {
+            Office one = Office.ofPlain(1);
+            if (row[0] > 0) {
+                due("note", one.x.note(0, row[0], row[1], row[2]), 1);
+            }
+            one.same("behind a note of " + row[0] + ", " + row[1] + ", " + row[2], () -> one.x.look(0), row[3]);
+        }
     }
 
     // ---- MARKS
@@ -572,6 +586,15 @@ public final class EdgesOfAnswersTest {
             o.x.mark(0, 9, 2, 0, 32);
             o.same("no KIND", () -> o.x.ask(0), NONE);
         }
+
+        Office.sentence("ASK: 100 d and f (d 0, 1, f 0 .. 11), its POWER as it is");
+        for (int p : new int[] {1, 9}) {
+            Office o = new Office().magnet(5, 11, p);
+            o.x.mark(0, 9, 3, 0, 8);
+            o.same("KEEPER, COLD: unlike on day 1", () -> o.x.ask(0), 100);
+            o.x.mark(0, 9, 3, 99, 0);
+            o.same("COLD alone: the least", () -> o.x.ask(0), 0);
+        }
     }
 
     // ---- LIFTS and SLIPS
@@ -617,6 +640,20 @@ public final class EdgesOfAnswersTest {
         rests(6, 28, 20);
         rests(7, 28, 30);
         rests(1, 28, 0, 10);
+
+        Office.sentence("with i, j (0 .. 9) hands each");
+        // By 9 hands 27 are lifted, and 9 are less than 27; for 28 there are not hands enough.
+        rests(27, 1, 90);
+        rests(1, 27, 9);
+        rests(28, 1, 0, 1);
+        rests(36, 27, 9);
+
+        Office.sentence("to each what the STRING weighs that it lifts (none: 0), less 1 for each hand");
+        // To lift 1 by 1 hand is no more than to lift none by none; to lift 2 is.
+        rests(1, 36, 0, 10);
+        rests(2, 36, 10);
+        rests(36, 1, 0, 1);
+        rests(36, 2, 1);
 
         Office.sentence("the second that of b, if j is more than i and at least a third (cut up) of what it weighs");
         rests(28, 3, 1);
@@ -755,12 +792,55 @@ public final class EdgesOfAnswersTest {
         }
     }
 
+    private static BigInteger nextOf(BigInteger x) {
+        return x.multiply(new BigInteger("1103515245")).add(new BigInteger("12345")).mod(BigInteger.TWO.pow(31));
+    }
+
+    private static void tugsOfDecades() {
+        Office.sentence("a TUG of X by 65536 (cut), by 20 left over, and 1, at CLERK X by 1048576 (cut), by 7 left over");
+        // With RUST of 4 a TUG of 20 at 0 is FELT by 3, one of 19 is not.
+        boolean[] tugs = new boolean[21];
+        boolean[] clerks = new boolean[7];
+        for (int seed = 0; seed < 20; seed++) {
+            Office o = Office.ofKinds(0, 3, 3, 0, 1, 2, 5).untilDay(4).chained(7).magnet(3, 11, 9).magnet(0, 0, 9);
+            int s = seed * 52631;
+            int ahead = 0;
+            BigInteger x = BigInteger.valueOf(s);
+            for (int n = 1; n <= 60; n++) {
+                x = nextOf(x);
+                int t = x.divide(BigInteger.valueOf(65536)).intValueExact() % 20 + 1;
+                int at = x.divide(BigInteger.valueOf(1048576)).intValueExact() % 7;
+                tugs[t] = true;
+                clerks[at] = true;
+                int all = ahead + Integer.bitCount(felt(n - 1, at, t));
+                int days = n;
+                due("decades(" + s + ", " + n + ")", o.x.decades(s, days), all);
+                ahead = all;
+            }
+        }
+        for (int t = 1; t <= 20; t++) {
+            due("a TUG of " + t + " was among them", tugs[t] ? 1 : 0, 1);
+        }
+        for (int c = 0; c < 7; c++) {
+            due("CLERK " + c + " was among them", clerks[c] ? 1 : 0, 1);
+        }
+    }
+
+    /** Who FEEL it (bits) in the office of tugsOfDecades, so many DAYS on. */
+    private static int felt(int days, int at, int t) {
+        ClerkChains x = Office.ofKinds(0, 3, 3, 0, 1, 2, 5).untilDay(4).chained(7).magnet(3, 11, 9).magnet(0, 0, 9).x;
+        if (days > 0) {
+            x.day(days);
+        }
+        return x.felt(at, t, NONE);
+    }
+
     /** How many of the TUGS of a SEED are at a CLERK of a lesser number. */
     private static int tugsAtLess(int seed, int days, int number) {
         BigInteger x = BigInteger.valueOf(seed);
         int all = 0;
         for (int k = 0; k < days; k++) {
-            x = x.multiply(new BigInteger("1103515245")).add(new BigInteger("12345")).mod(BigInteger.TWO.pow(31));
+            x = nextOf(x);
             all += x.shiftRight(20).intValueExact() % 7 < number ? 1 : 0;
         }
         return all;
@@ -800,6 +880,37 @@ public final class EdgesOfAnswersTest {
         nine.no("the hook was the 9th", () -> nine.x.undo());
         due("of(1, 4)", nine.x.of(1, 4), 0);
         whatUndoLeaves();
+    }
+
+    private static void undoOfSeven() {
+        Office.sentence("UNDO: DESKS of CLERKS, RUST, who is ON whom, the DAY as ahead of the last DAYS gone by, hooking, unbending");
+        Office o = Office.with(0, 0, 1, 0, 1, 9, 0, 2, 1, 0, 3, 9, 0, 4, 1, 0, 5, 9, 0, 6, 1)
+                .untilDay(3).magnet(0, 11, 4);
+        List<List<Integer>> ahead = new ArrayList<>();
+        int[][] hooks = {{6, 5}, {5, 3}, {0, 6}, {3, 1}};
+        for (int[] hook : hooks) {
+            ahead.add(whatIsUndone(o.x));
+            o.x.day(hook[1]);
+            ahead.add(whatIsUndone(o.x));
+            o.hooked(hook);
+        }
+        ahead.add(whatIsUndone(o.x));
+        due("count(8)", o.x.count(8), 8);
+        for (int k = 7; k >= 0; k--) {
+            due("as behind it", whatIsUndone(o.x).equals(ahead.get(k + 1)) ? 1 : 0, 1);
+            due("unlike ahead of it", ahead.get(k).equals(ahead.get(k + 1)) ? 1 : 0, 0);
+            due("undo()", o.x.undo(), ahead.get(k).get(0));
+        }
+        due("as at first", whatIsUndone(o.x).equals(ahead.get(0)) ? 1 : 0, 1);
+    }
+
+    /** The DAY, then DESK, RUST and ON of each CLERK. */
+    private static List<Integer> whatIsUndone(ClerkChains x) {
+        List<Integer> all = new ArrayList<>(List.of(x.count(2)));
+        for (int c = 0; c < 7; c++) {
+            all.addAll(List.of(x.of(c, 1), x.of(c, 3), x.of(c, 4)));
+        }
+        return all;
     }
 
     private static void whatUndoLeaves() {

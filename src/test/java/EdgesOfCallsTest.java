@@ -351,6 +351,16 @@ public final class EdgesOfCallsTest {
             due("status", x.status(reason), 0);
         }
 
+        Office.sentence("An object is used for at most 512 calls after it has been made");
+        ClerkChains old = new ClerkChains();
+        due("a CLERK", old.clerk(2, 5, 1), 0);
+        for (int calls = 2; calls < 512; calls += 3) {
+            due("day", old.day(1), 0);
+            due("count(8)", old.count(8), 1);
+            due("undo()", old.undo(), 0);
+        }
+        due("the 512th", old.felt(0, 20, NONE), 1);
+
         Office.sentence("how many CLERKS there were");
         due("none", Lives.empty().office(), 0);
         due("three", Lives.some().office(), 3);

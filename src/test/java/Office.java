@@ -8,6 +8,8 @@ final class Office {
     static final int BAD = 0, NO = 1, FULL = 2;
 
     private static final Path DOCUMENT = Path.of("../shared/DOC.md");
+    // One fault of the class may show in many thousand answers.
+    private static final int MOST_SHOWN = 300;
 
     private static int wrong = 0;
     private static int checks = 0;
@@ -26,16 +28,14 @@ final class Office {
         closeSentence();
         label = "\"" + words + "\"";
         if (!stands(words)) {
-            wrong++;
-            System.out.println(label + " does not stand in " + DOCUMENT);
+            tell(label + " does not stand in " + DOCUMENT);
         }
     }
 
     /** A sentence without an answer of its own is not tested. */
     private static void closeSentence() {
         if (label.startsWith("\"") && checks == checksAhead) {
-            wrong++;
-            System.out.println(label + " has no test");
+            tell(label + " has no test");
         }
         checksAhead = checks;
     }
@@ -64,8 +64,16 @@ final class Office {
     static void due(String call, long got, long want) {
         checks++;
         if (got != want) {
-            wrong++;
-            System.out.println(label + ": " + call + " answered " + got + ", due is " + want);
+            tell(label + ": " + call + " answered " + got + ", due is " + want);
+        }
+    }
+
+    private static void tell(String fault) {
+        wrong++;
+        if (wrong <= MOST_SHOWN) {
+            System.out.println(fault);
+        } else if (wrong == MOST_SHOWN + 1) {
+            System.out.println("..");
         }
     }
 
