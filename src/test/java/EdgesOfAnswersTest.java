@@ -120,7 +120,8 @@ public final class EdgesOfAnswersTest {
     }
 
     private static void quiet() {
-        Office.sentence("of all the least TUG, of like ones the first CLERK: 100 t and the CLERK; none.");
+        Office.sentence("QUIET: a CLERK and the least TUG at it that j FEELS and nobody of those told (bits): "
+                + "of all the least TUG, of like ones the first CLERK: 100 t and the CLERK; none.");
         Office chain = Office.ofKinds(2, 2, 2, 2, 2, 2, 2).chained(7);
         chain.same("of like ones the first", () -> chain.x.quiet(6, 0), 100);
         chain.same("all FEEL it", () -> chain.x.quiet(6, 1), NONE);
